@@ -1029,9 +1029,12 @@ public final class ShutDays {
 
         // A purse is never below 0, so of the rows from one house on the longest has the most.
         int loot(int first, int date, int k) {
+            if (!told(first)) {
+                return 0;
+            }
             int sum = 0;
             int counted = 0;
-            for (int h = first; told(h) && counted < k; h++) {
+            for (int h = first; h < houses && counted < k; h++) {
                 if (isGone(h)) {
                     continue;
                 }
@@ -1412,10 +1415,10 @@ public final class ShutDays {
                 if (!isFirst) {
                     advance();
                 }
-                readAsk(0);
+                readAsk();
                 for (int k = 0; k < MOST_BYTES && kind() == AND; k++) {
                     advance();
-                    readAsk(0);
+                    readAsk();
                     emit(AND);
                 }
                 if (!isFirst) {
@@ -1425,24 +1428,26 @@ public final class ShutDays {
             }
         }
 
-        private void readAsk(int open) {
-            if (kind() == NOT) {
-                if (canEnter(open)) {
-                    readAsk(open + 1);
-                    emit(NOT);
-                }
-                return;
+        private void readAsk() {
+            int nots = 0;
+            while (nots <= MOST_OPEN && kind() == NOT && canEnter(nots)) {
+                nots++;
             }
-            readSum(open);
+            readSum(nots);
             int relation = kind();
-            if (isWithin(relation, LESS, UNLIKE) || isWithin(relation, AT_MOST, AT_LEAST)
-                    || relation == DIVIDES) {
-                advance();
-                readSum(open);
-                emit(relation);
-            } else {
+            if (!isRelation(relation)) {
                 fail(MISPLACED);
             }
+            advance();
+            readSum(nots);
+            emit(relation);
+            for (int i = 0; i < nots; i++) {
+                emit(NOT);
+            }
+        }
+
+        private static boolean isRelation(int kind) {
+            return isWithin(kind, LESS, UNLIKE) || isWithin(kind, AT_MOST, AT_LEAST) || kind == DIVIDES;
         }
 
         private void readSum(int open) {
@@ -1742,12 +1747,12 @@ public final class ShutDays {
         // A house is shut on three dates at most, so a year is far more than any plan needs.
         void plan(Town town, int set) {
             length = Integer.bitCount(set);
-            while (length < DATES && !canPlace(town, set, 0)) {
+            while (length < DATES && !canPlace(town, set, 0, length, dayOf)) {
                 length++;
             }
         }
 
-        private boolean canPlace(Town town, int left, int day) {
+        private static boolean canPlace(Town town, int left, int day, int length, int[] dayOf) {
             if (left == 0) {
                 return true;
             }
@@ -1757,12 +1762,12 @@ public final class ShutDays {
             int date = (town.day + day) % DATES;
             for (int h = 0; h < MOST_HOUSES; h++) {
                 if ((left >> h & 1) == 1 && !town.isShut(h, date)
-                        && canPlace(town, left & ~(1 << h), day + 1)) {
+                        && canPlace(town, left & ~(1 << h), day + 1, length, dayOf)) {
                     dayOf[h] = day;
                     return true;
                 }
             }
-            return canPlace(town, left, day + 1);
+            return canPlace(town, left, day + 1, length, dayOf);
         }
     }
 
@@ -1780,26 +1785,26 @@ public final class ShutDays {
             for (int h = 0; h < MOST_HOUSES; h++) {
                 with[h] = NONE;
             }
-            pairFrom(town, 0, 0);
+            pairFrom(this, town, 0, 0);
         }
 
-        private void pairFrom(Town town, int house, int dates) {
+        private static void pairFrom(Couples made, Town town, int house, int dates) {
             if (house >= town.houses || house >= MOST_HOUSES) {
-                keepBetter(dates);
+                made.keepBetter(dates);
                 return;
             }
-            pairFrom(town, house + 1, dates);
-            if (with[house] != NONE || !town.lives(house)) {
+            pairFrom(made, town, house + 1, dates);
+            if (made.with[house] != NONE || !town.lives(house)) {
                 return;
             }
             for (int other = house + 1; other < town.houses && other < MOST_HOUSES; other++) {
-                if (with[other] == NONE && town.lives(other)) {
+                if (made.with[other] == NONE && town.lives(other)) {
                     int together = Integer.bitCount(town.shut[house] & town.shut[other]);
-                    with[house] = other;
-                    with[other] = house;
-                    pairFrom(town, house + 1, dates + together);
-                    with[house] = NONE;
-                    with[other] = NONE;
+                    made.with[house] = other;
+                    made.with[other] = house;
+                    pairFrom(made, town, house + 1, dates + together);
+                    made.with[house] = NONE;
+                    made.with[other] = NONE;
                 }
             }
         }

@@ -123,5 +123,31 @@ public final class BooksTest {
         x.day(3);
         Due.due("back to it", x.back(), 0);
         Due.due("houses", x.about(0), 2);
+        toldThings();
+    }
+
+    /** What was seen and the gossip are as in the image, though others were told since. */
+    private static void toldThings() {
+        ShutDays x = new ShutDays();
+        for (int i = 0; i < 4; i++) {
+            x.house(i, -1, -1, 0, 0);
+        }
+        x.seen(1, 7, true);
+        x.seen(1, 8, false);
+        x.gossip(0, 1);
+        x.gossip(1, 3);
+        x.image();
+        x.seen(-1, 0, true);
+        x.seen(2, 5, false);
+        x.seen(3, 6, true);
+        x.gossip(-1, 0);
+        x.gossip(3, 2);
+        x.gossip(2, 1);
+        x.back();
+        Due.due("seen", x.sets(1, 1, true), 128);
+        Due.due("not that", x.odds(1, 3, 8, false), 0);
+        Due.due("seen of others", x.sets(2, 1, false) + x.sets(3, 1, false), 40);
+        Due.due("gossip", x.knows(3, 0), 2);
+        Due.due("gossip", x.knows(1, 3), -1);
     }
 }

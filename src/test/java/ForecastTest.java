@@ -4,6 +4,7 @@ public final class ForecastTest {
         foretold();
         indoors();
         dates();
+        dateOne();
         poorest();
         Due.finish();
     }
@@ -95,6 +96,24 @@ public final class ForecastTest {
         Due.due("friends", x.feast(true), 60);
         Due.due("alone", x.alone(), 2);
         Due.due("crowded", x.crowded(true), 1);
+    }
+
+    private static void dateOne() {
+        ShutDays x = new ShutDays();
+        x.house(1, -1, -1, 0, 10);
+        Due.due("crowded", x.crowded(false), 1);
+        Due.due("alone", x.alone(), 1);
+        x.house(0, 2, 3, 0, 10);
+        x.house(4, 2, 3, 0, 10);
+        x.house(4, 5, 6, 0, 10);
+        Due.due("crowded", x.crowded(false), 2);
+        Due.due("alone", x.alone(), 1);
+        ShutDays y = new ShutDays();
+        y.house(0, -1, -1, 0, 10);
+        Due.due("feast", y.feast(false), 1);
+        y.house(19, 1, 2, 0, 20);
+        y.house(3, 4, 5, 0, 20);
+        Due.due("feast", y.feast(false), 6);
     }
 
     private static void poorest() {

@@ -58,6 +58,10 @@ public final class GuessTest {
         x.seen(0, 7, false);
         Due.due("it can't be", x.sets(0, 3, false), 0);
         Due.due("it can't be", x.sets(0, 3, true), 0);
+        x.seen(-1, 0, true);
+        x.seen(0, 0, true);
+        x.seen(0, 19, true);
+        Due.due("the first and the last", x.sets(0, 2, true), 1 | 1 << 19);
     }
 
     private static void byTheBook() {

@@ -70,6 +70,18 @@ public final class LanguageTest {
         Due.faulty("earn 1;", 1, 0);
         Due.faulty("earnss 1;", 1, 0);
         Due.faulty("friendsfriends 1;", 1, 0);
+        Due.faulty("earnsa 1;", 1, 0);
+        Due.faulty("earnsz 1;", 1, 0);
+        Due.faulty("earnsA 1;", 1, 0);
+        Due.faulty("earnsZ 1;", 1, 0);
+        Due.faulty("earns[ 1;", 1, 5);
+        Due.faulty("earns` 1;", 1, 5);
+        Due.faulty("earns1;", 0, -1);
+        Due.faulty("earns1loses2;", 1, 6);
+        Due.faulty("earns 1/2:", 1, 9);
+        Due.faulty(";".repeat(300), 1, 0);
+        Due.faulty("earns " + "1+".repeat(146) + "1;", 0, -1);
+        Due.faulty("earns " + "1+".repeat(147), 1, 300);
         Due.faulty("purse 1;", 1, 0);
         Due.faulty("beside;", 1, 0);
         Due.faulty("7;", 1, 0);
