@@ -14,6 +14,8 @@ public final class ForecastEdgesTest {
         crowdedLikeOnes();
         crowdedWithOneGone();
         feastEdges();
+        feastOnTheLastDate();
+        crowdedOnEachDate();
         feastWithOneGone();
         aloneEdges();
         nobodysEdges();
@@ -193,6 +195,32 @@ public final class ForecastEdgesTest {
         }
         Due.due("18 and 19 are nobody's", y.feast(false), 18);
         Due.due("how many", y.feast(true), 10 + 11 + 110);
+    }
+
+    /** All dates but the last are somebody's. */
+    private static void feastOnTheLastDate() {
+        ShutDays x = new ShutDays();
+        for (int i = 0; i < 6; i++) {
+            x.house(3 * i, 3 * i + 1, 3 * i + 2, 0, 1);
+        }
+        x.house(18, -1, -1, 0, 1);
+        Due.due("19", x.feast(false), 19);
+        Due.due("all seven", x.feast(true), 7);
+        x.day(19);
+        Due.due("whatever day it is", x.feast(false), 19);
+    }
+
+    private static void crowdedOnEachDate() {
+        for (int date = 0; date < 20; date++) {
+            ShutDays x = new ShutDays();
+            x.house(date, -1, -1, 0, 0);
+            x.day(7);
+            Due.due("the one date", x.crowded(false), date);
+            Due.due("one", x.crowded(true), 1);
+            Due.due("all but it", x.nobodys(), ALL & ~(1 << date));
+            Due.due("in how many days", x.indoors(1), (date + 20 - 7) % 20);
+            Due.due("open on the lowest other", x.feast(false), 0);
+        }
     }
 
     private static void feastWithOneGone() {

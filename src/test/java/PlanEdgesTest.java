@@ -6,8 +6,11 @@ public final class PlanEdgesTest {
         appointmentsByDays();
         appointmentsLate();
         appointmentsOnTheLastDay();
+        appointmentsOfTheLastHouse();
+        appointmentsOverTheYearsEnd();
         roundsOfOneDate();
         roundsOfTwoDates();
+        roundsInOrder();
         roundsWithGoneOnes();
         weddingsRefused();
         weddingsOfLikeOnes();
@@ -24,6 +27,7 @@ public final class PlanEdgesTest {
         whoseRefused();
         whoseOfLikeOnes();
         whoseToTheLastDay();
+        whoseOfTheLastHouse();
         Due.finish();
     }
 
@@ -134,6 +138,30 @@ public final class PlanEdgesTest {
         plan(x, 1, 2, 1);
     }
 
+    private static void appointmentsOfTheLastHouse() {
+        ShutDays x = new ShutDays();
+        for (int i = 0; i < 7; i++) {
+            x.house(i == 6 ? 2 : 0, i == 6 ? -1 : 1, -1, 0, 0);
+        }
+        plan(x, 64, 1, 0);
+        // 6 alone can be met on the first two days; it isn't open on the third.
+        plan(x, 65, 3, 2, 0);
+        plan(x, 64 | 32 | 16 | 8 | 4, 6, 2, 3, 4, 5, 0);
+    }
+
+    /** Dates 18, 19, 0 come one behind the other. */
+    private static void appointmentsOverTheYearsEnd() {
+        ShutDays x = new ShutDays();
+        x.house(18, 19, -1, 0, 0);
+        x.house(0, 18, -1, 0, 0);
+        x.house(0, 19, -1, 0, 0);
+        x.day(18);
+        plan(x, 7, 3, 2, 1, 0);
+        plan(x, 1, 3, 2);
+        x.day(1);
+        plan(x, 7, 3, 1, 0, 2);
+    }
+
     private static void roundsOfOneDate() {
         ShutDays x = new ShutDays();
         x.house(-1, -1, -1, 0, 0);
@@ -169,6 +197,23 @@ public final class PlanEdgesTest {
         Due.due("0 and 3 yet", y.rounds(), 1 | 8);
         y.forget(19, 6);
         Due.due("19 alone", y.rounds(), 1 << 19);
+    }
+
+    /** All dates are had by somebody: of two dates the lowest set by its bits, 0 and 1, 0 and 2, 1 and 2. */
+    private static void roundsInOrder() {
+        int[][] firsts = {{0, 2, 3, 1, 4, 5}, {0, 1, 3, 2, 4, 5}, {0, 1, 3, 0, 2, 4}};
+        int[] want = {3, 5, 6};
+        for (int i = 0; i < 3; i++) {
+            ShutDays x = new ShutDays();
+            int[] f = firsts[i];
+            x.house(f[0], f[1], f[2], 0, 0);
+            x.house(f[3], f[4], f[5], 0, 0);
+            for (int date = 5; date < 20; date += 3) {
+                x.house(date, date + 1, date + 2, 0, 0);
+            }
+            Due.due("every date is had", x.nobodys(), 0);
+            Due.due("rounds", x.rounds(), want[i]);
+        }
     }
 
     private static void roundsWithGoneOnes() {
@@ -281,6 +326,8 @@ public final class PlanEdgesTest {
         Due.due("six", y.twins(), 15);
         y.hat(6);
         Due.due("five", y.twins(), 10);
+        y.marry(5, 1);
+        Due.due("four", y.twins(), 6);
     }
 
     private static void gossipRefused() {
@@ -480,5 +527,22 @@ public final class PlanEdgesTest {
         Due.due("one can: by the third", x.whose(60), 2);
         x.undo();
         Due.due("two can: 10 to 9", x.whose(60), 1);
+    }
+
+    /** Each text gives to one house alone: all seven purses count. */
+    private static void whoseOfTheLastHouse() {
+        for (int favoured = 0; favoured < 7; favoured++) {
+            ShutDays x = new ShutDays();
+            for (int i = 0; i < 7; i++) {
+                x.house(-1, -1, -1, 5, 0);
+            }
+            Due.told(x, "earns 0;");
+            Due.told(x, "earns 7 * (1 - (house - " + favoured + ") * (house - " + favoured + "));");
+            Due.due("by the second, for " + favoured, x.whose(1), 1);
+            x.by(1);
+            Due.due("its purse", x.foretold(1, favoured), 12);
+            Due.due("another's", x.foretold(1, (favoured + 1) % 7), 5);
+            Due.due("what all earn", x.richest(true), 7);
+        }
     }
 }

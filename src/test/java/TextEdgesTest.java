@@ -9,6 +9,7 @@ public final class TextEdgesTest {
         faultEdges();
         byEdges();
         blanks();
+        beyondLettersAndDigits();
         signs();
         words();
         numbers();
@@ -191,6 +192,23 @@ public final class TextEdgesTest {
         Due.faulty("lets 1 <\n= 1;", 1, 9);
     }
 
+    /** Signs right below and above a, z, A, Z, 0, 9 are neither; those at the ends are. */
+    private static void beyondLettersAndDigits() {
+        for (char sign : new char[] {'@', '[', '`', '{', ':', '.', '&', '!', '"', '$', '%', '\'', ',', '?', '_', '~'}) {
+            Due.faulty("day 1" + sign + ";", 1, 5);
+            Due.faulty("day" + sign + "1;", 1, 3);
+        }
+        for (char sign : new char[] {'a', 'z', 'A', 'Z'}) {
+            Due.faulty("day" + sign + " 1;", 1, 0);
+            Due.faulty(sign + "day 1;", 1, 0);
+            Due.faulty("day 1" + sign + ";", 1, 5);
+        }
+        for (char sign : new char[] {'0', '9'}) {
+            Due.faulty("day 1" + sign + ";", 0, -1);
+            Due.faulty("day" + sign + ";", sign == '0' ? 2 : 0, sign == '0' ? 3 : -1);
+        }
+    }
+
     /** The longest sign stands: <= and >= are one token each. */
     private static void signs() {
         Due.faulty("lets 1<=1;", 0, -1);
@@ -314,6 +332,14 @@ public final class TextEdgesTest {
         Due.faulty(" ".repeat(299) + "x", 1, 299);
         Due.faulty("x".repeat(300), 1, 0);
         Due.faulty("7".repeat(300), 1, 0);
+        Due.faulty(";".repeat(300), 1, 0);
+        Due.faulty("lets 1" + " ".repeat(293) + "<", 1, 300);
+        Due.faulty("lets 1" + " ".repeat(293) + ">", 1, 300);
+        Due.faulty("lets 1" + " ".repeat(292) + "<=", 1, 300);
+        Due.faulty("(".repeat(299), 1, 0);
+        Due.faulty("day 1;" + ";".repeat(294), 1, 6);
+        Due.faulty("day 1;".repeat(23) + "earns " + "1-".repeat(77) + "1;", 0, -1);
+        Due.faulty("day 1;".repeat(23) + "earns " + "1-".repeat(77) + "1 ", 1, 300);
         Due.faulty("earns " + "1+".repeat(146) + "1;", 0, -1);
         Due.faulty("earns " + "(1)+".repeat(73) + "1;", 0, -1);
         Due.faulty("lets " + "1=1or ".repeat(48) + "1=1;", 0, -1);
