@@ -8,6 +8,7 @@ public final class NewObjectEdgesTest {
         twoObjects();
         eachDateOfAHouse();
         purseAndFriends();
+        farOutsideForAHouse();
         sevenHouses();
         sevenWithOneGone();
         askedOfAHouse();
@@ -173,6 +174,20 @@ public final class NewObjectEdgesTest {
         Due.due("purse", x.of(1, 1), 9999);
         Due.due("friends", x.of(0, 2), 0);
         Due.due("friends", x.of(1, 2), 99);
+    }
+
+    private static void farOutsideForAHouse() {
+        ShutDays x = new ShutDays();
+        for (int far : new int[] {Integer.MIN_VALUE, -33, -32, 31, 32, 33, Integer.MAX_VALUE}) {
+            Due.due("first date " + far, x.house(far, -1, -1, 0, 0), -1);
+            Due.due("second date " + far, x.house(-1, far, -1, 0, 0), -1);
+            Due.due("third date " + far, x.house(-1, -1, far, 0, 0), -1);
+        }
+        for (int far : new int[] {Integer.MIN_VALUE, Integer.MAX_VALUE}) {
+            Due.due("purse " + far, x.house(1, -1, -1, far, 0), -1);
+            Due.due("friends " + far, x.house(1, -1, -1, 0, far), -1);
+        }
+        Due.due("none was told", x.about(0), 0);
     }
 
     private static void sevenHouses() {

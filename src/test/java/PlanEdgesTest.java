@@ -23,6 +23,7 @@ public final class PlanEdgesTest {
         neverEdges();
         richestOfLikeOnes();
         richestAsIfThen();
+        richestBeyondTheLastDay();
         richestOfShutAndGone();
         whoseRefused();
         whoseOfLikeOnes();
@@ -453,6 +454,23 @@ public final class PlanEdgesTest {
         Due.due("19", x.richest(false), 19);
         Due.due("19", x.richest(true), 19);
         Due.due("no day has passed", x.is(0), 7);
+    }
+
+    /** On day 9999 (date 19) the next with date 18 would be day 10018, though it can't come. */
+    private static void richestBeyondTheLastDay() {
+        ShutDays x = new ShutDays();
+        x.house(-1, -1, -1, 0, 0);
+        Due.told(x, "earns 0;");
+        Due.told(x, "earns day - 9999 + 5;");
+        Due.told(x, "earns 9999 + 5 - day;");
+        x.by(0);
+        toTheLastDay(x);
+        x.by(1);
+        Due.due("date 18", x.richest(false), 18);
+        Due.due("19 days on", x.richest(true), 24);
+        x.by(2);
+        Due.due("today", x.richest(false), 19);
+        Due.due("5", x.richest(true), 5);
     }
 
     private static void richestOfShutAndGone() {
