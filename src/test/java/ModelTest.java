@@ -4,6 +4,8 @@ import java.util.Random;
 public final class ModelTest {
     private static final int RUNS = 1500;
     private static final int CALLS = 300;
+    private static final int LATE_RUNS = 150;
+    private static final int LATE_CALLS = 200;
 
     private final Random random;
     private final ShutDays x = new ShutDays();
@@ -17,16 +19,38 @@ public final class ModelTest {
 
     public static void main(String[] args) {
         for (int seed = 0; seed < RUNS; seed++) {
+            if (!new ModelTest(seed).isRunRight(CALLS)) {
+                System.out.println("seed " + seed);
+                break;
+            }
+        }
+        for (int seed = 0; seed < LATE_RUNS; seed++) {
             ModelTest test = new ModelTest(seed);
-            for (int i = 0; i < CALLS; i++) {
-                if (!test.isCallRight()) {
-                    System.out.println("seed " + seed + ", call " + i);
-                    Due.finish();
-                    return;
-                }
+            test.goToTheLastYears();
+            if (!test.isRunRight(LATE_CALLS)) {
+                System.out.println("late seed " + seed);
+                break;
             }
         }
         Due.finish();
+    }
+
+    private boolean isRunRight(int calls) {
+        for (int i = 0; i < calls; i++) {
+            if (!isCallRight()) {
+                System.out.println("call " + i);
+                return false;
+            }
+        }
+        return true;
+    }
+
+    /** By days alone a run of this length hardly comes to day 9999, where none can pass. */
+    private void goToTheLastYears() {
+        for (int i = 0; i < 165; i++) {
+            same("day(60)", x.day(60), m.day(60));
+        }
+        same("image()", x.image(), m.image());
     }
 
     private int n(int least, int most) {
